@@ -95,7 +95,8 @@ public final class GroutingIsFollowed {
     public int lays(int node, int kind, int figure) {
         if (!isNode(node)) return refuse(NOBODY);
         if (!isKind(kind)) return refuse(OTHER);
-        if (outside(figure, 0, MOST_FIGURE) != 0) return refuse(outside(figure, 0, MOST_FIGURE));
+        int amiss = outside(figure, 0, MOST_FIGURE);
+        if (amiss != 0) return refuse(amiss);
         int had = 10 * now.kindOf(node) + now.figureOf(node);
         now.putKind(node, kind);
         now.putFigure(node, figure);
@@ -104,7 +105,8 @@ public final class GroutingIsFollowed {
 
     public int wets(int node, int v) {
         if (!isNode(node)) return refuse(NOBODY);
-        if (outside(v, 0, MOST_WET) != 0) return refuse(outside(v, 0, MOST_WET));
+        int amiss = outside(v, 0, MOST_WET);
+        if (amiss != 0) return refuse(amiss);
         int had = now.wetOf(node);
         now.putWet(node, v);
         return had;
@@ -131,7 +133,8 @@ public final class GroutingIsFollowed {
     }
 
     public int steps(int n) {
-        if (outside(n, 1, MOST_STEPS) != 0) return refuse(outside(n, 1, MOST_STEPS));
+        int amiss = outside(n, 1, MOST_STEPS);
+        if (amiss != 0) return refuse(amiss);
         if (now.stepCount() + n > MOST_STEP) return refuse(ROOM);
         now.goOn(n, NOBODY_STANDS);
         return now.allWet();
@@ -139,7 +142,8 @@ public final class GroutingIsFollowed {
 
     public int personThen(int person, int n, int what) {
         if (!now.has(person)) return refuse(NOBODY);
-        if (outside(n, 0, MOST_STEPS) != 0) return refuse(outside(n, 0, MOST_STEPS));
+        int amiss = outside(n, 0, MOST_STEPS);
+        if (amiss != 0) return refuse(amiss);
         if (what < 0 || what > 2) return refuse(OTHER);
         mind.becomes(now);
         mind.goOn(n, NOBODY_STANDS);
@@ -148,7 +152,8 @@ public final class GroutingIsFollowed {
 
     public int wetThen(int node, int n) {
         if (!isNode(node)) return refuse(NOBODY);
-        if (outside(n, 0, MOST_STEPS) != 0) return refuse(outside(n, 0, MOST_STEPS));
+        int amiss = outside(n, 0, MOST_STEPS);
+        if (amiss != 0) return refuse(amiss);
         mind.becomes(now);
         mind.goOn(n, NOBODY_STANDS);
         return mind.wetOf(node);
@@ -162,7 +167,8 @@ public final class GroutingIsFollowed {
 
     public int visits(int person, int n) {
         if (!now.has(person)) return refuse(NOBODY);
-        if (outside(n, 0, MOST_STEPS) != 0) return refuse(outside(n, 0, MOST_STEPS));
+        int amiss = outside(n, 0, MOST_STEPS);
+        if (amiss != 0) return refuse(amiss);
         mind.becomes(now);
         return mind.visitsIn(person, n);
     }
@@ -207,7 +213,8 @@ public final class GroutingIsFollowed {
 
     public int begin(int person, int n, int what) {
         if (!now.has(person)) return refuse(NOBODY);
-        if (outside(n, 0, MOST_STEPS_OF_CHOICES) != 0) return refuse(outside(n, 0, MOST_STEPS_OF_CHOICES));
+        int amiss = outside(n, 0, MOST_STEPS_OF_CHOICES);
+        if (amiss != 0) return refuse(amiss);
         if (what < 0 || what > 1) return refuse(OTHER);
         int best = 0;
         int most = 0;
@@ -241,7 +248,8 @@ public final class GroutingIsFollowed {
 
     public int damp(int person, int n) {
         if (!now.has(person)) return refuse(NOBODY);
-        if (outside(n, 0, MOST_STEPS_OF_CHOICES) != 0) return refuse(outside(n, 0, MOST_STEPS_OF_CHOICES));
+        int amiss = outside(n, 0, MOST_STEPS_OF_CHOICES);
+        if (amiss != 0) return refuse(amiss);
         mind.becomes(now);
         int most = mind.visitsIn(person, n);
         int best = NONE;
@@ -259,7 +267,8 @@ public final class GroutingIsFollowed {
 
     public int bestKind(int node, int person, int n) {
         if (!isNode(node) || !now.has(person)) return refuse(NOBODY);
-        if (outside(n, 0, MOST_STEPS_OF_CHOICES) != 0) return refuse(outside(n, 0, MOST_STEPS_OF_CHOICES));
+        int amiss = outside(n, 0, MOST_STEPS_OF_CHOICES);
+        if (amiss != 0) return refuse(amiss);
         int best = 0;
         int most = 0;
         for (int kind = 0; kind < KINDS; kind++) {
@@ -303,7 +312,8 @@ public final class GroutingIsFollowed {
 
     public int two(int a, int b, int n) {
         if (!areTwo(a, b)) return refuse(NOBODY);
-        if (outside(n, 0, MOST_STEPS_OF_CHOICES) != 0) return refuse(outside(n, 0, MOST_STEPS_OF_CHOICES));
+        int amiss = outside(n, 0, MOST_STEPS_OF_CHOICES);
+        if (amiss != 0) return refuse(amiss);
         for (int pair = 0; pair < 4; pair++) reckonGains(pair, a, b, n);
         for (int pair = 0; pair < 4; pair++) {
             boolean firstStays = gainOf(pair, 0) >= gainOf(pair ^ 2, 0);
@@ -371,7 +381,8 @@ public final class GroutingIsFollowed {
     }
 
     public int lots(int n, int z, int what) {
-        if (outside(n, 1, MOST_BATHS) != 0) return refuse(outside(n, 1, MOST_BATHS));
+        int amiss = outside(n, 1, MOST_BATHS);
+        if (amiss != 0) return refuse(amiss);
         if (what < 0 || what > 1) return refuse(OTHER);
         seed = z;
         int answer = 0;

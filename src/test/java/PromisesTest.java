@@ -446,6 +446,10 @@ public final class PromisesTest {
         due("behind 60", x.comes(0, 9), 60);
         due("there behind 60", x.personThen(0, 60, 0), 9);
         due("not behind 59", x.personThen(0, 59, 0), 15);
+        x = told("n06r1;n07b2;n12l3;p002;p152;");
+        due("behind 61", x.comes(0, 11), -9);
+        x.steps(1);
+        due("behind 60", x.comes(0, 11), 60);
         x = told("p001;w036;s08;");
         due("of one who stands there", x.comes(0, x.person(0, 0)), 0);
     }
@@ -475,6 +479,8 @@ public final class PromisesTest {
         due("stops(3)", x.stops(3), -1);
         due("stops(-1)", x.stops(-1), -1);
         refusals(x, 2, 0, 0, 0, 0);
+        due("26 gets dry, behind 61", told("n26y0;p293;").stops(0), -9);
+        due("26 gets dry, behind 60", told("n26y0;p293;s01;").stops(0), 60);
         due("node 3 gets dry, behind 61", told("p001;w036;s07;").stops(0), -9);
         due("node 3 gets dry, behind 60", told("p001;w036;s08;").stops(0), 60);
         x = told("w011;p011;p013;s01;a001;a101;");
@@ -496,6 +502,10 @@ public final class PromisesTest {
         due("meets(0, -1)", x.meets(0, -1), -1);
         refusals(x, 5, 0, 0, 0, 0);
         x = told("n01l2;p011;p193;");
+        due("behind 60", x.meets(0, 1), 60);
+        x = told("n18r3;p182;p073;");
+        due("behind 61", x.meets(0, 1), -9);
+        x.steps(1);
         due("behind 60", x.meets(0, 1), 60);
         due("not with one dry", told("n01l2;p011;p193;w180;").meets(0, 1), -9);
     }
@@ -533,6 +543,9 @@ public final class PromisesTest {
         due("way(7, 3, 1), by 13 or 8 or 1", x.way(7, 3, 1), 2);
         due("way(29, 5, 0)", x.way(29, 5, 0), 4);
         due("way(5, 24, 1)", x.way(5, 24, 1), 1);
+        due("way(29, 0, 0)", new GroutingIsFollowed().way(29, 0, 0), 9);
+        due("over WET 1", told("w011;w060;").way(0, 2, 0), 2);
+        due("over WET 1", told("w011;w060;").way(0, 2, 1), 0);
         due("not over the edge", told("w040;w110;").way(5, 6, 0), -9);
         due("way(30, 0, 2)", x.way(30, 0, 2), -1);
         due("way(-1, 0, 0)", x.way(-1, 0, 0), -1);
@@ -583,6 +596,8 @@ public final class PromisesTest {
         due("head(1, 0)", x.head(1, 0), -1);
         due("head(-1, 0)", x.head(-1, 0), -1);
         refusals(x, 4, 0, 0, 0, 0);
+        due("behind 60", told("n09l3;n06c2;n27l2;p111;w242;").head(0, 12), 1);
+        due("behind 61", told("n21b0;n04c2;n22r2;n19r0;p053;p183;").head(0, 28), -9);
         x = told("n21c2;n23l2;n05r3;p050;p013;");
         int soonest = 61;
         int best = -9;
@@ -605,6 +620,7 @@ public final class PromisesTest {
         due("damp(0, 0)", x.damp(0, 0), -9);
         due("damp(1, 1)", x.damp(1, 1), 12);
         due("damp, of a wet node", told("p141;w151;").damp(0, 12), 15);
+        due("damp, where he is, node 0", told("p001;w000;").damp(0, 5), 0);
         due("damp, nothing lacks", told("p141;").damp(0, 12), -9);
         x.wets(2, 0);
         due("damp(0, 5)", x.damp(0, 5), 2);
