@@ -840,8 +840,8 @@ public final class GroutingIsFollowed {
         private void follow(int person) {
             if (!has(person)) return;
             int from = place[person];
-            if (wetOf(from) == 0) return;
-            int way = wayBy(kindOf(from), figureOf(from), heading[person], step);
+            if (!isNode(from) || wet[from] == 0) return;
+            int way = wayBy(kind[from], figure[from], heading[person], step);
             int to = nodeThatWay(from, way);
             if (to < 0) {
                 heading[person] = (way + 2) % WAYS;
@@ -849,7 +849,7 @@ public final class GroutingIsFollowed {
             } else {
                 heading[person] = way;
                 place[person] = to;
-                if (step % 2 == 0) putWet(from, wetOf(from) - 1);
+                if (step % 2 == 0) wet[from]--;
             }
         }
 

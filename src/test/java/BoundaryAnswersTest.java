@@ -78,6 +78,14 @@ public final class BoundaryAnswersTest {
         });
         test("24: WETTEST: of two the least", () -> due("dry(1)", allDry("w113;w203;w012;").dry(1), 11));
         test("24: WETTEST: NODE 29 alone", () -> due("dry(1)", allDry("w291;").dry(1), 29));
+        test("24: WETTEST: each NODE alone", () -> {
+            GroutingIsFollowed x = allDry("");
+            for (int node = 0; node < 30; node++) {
+                x.wets(node, 1);
+                due("dry(1)", x.dry(1), node);
+                x.wets(node, 0);
+            }
+        });
         test("24: ALL WET: none and 270", () -> {
             due("none", allDry("").dry(2), 0);
             due("all", fresh().dry(2), 270);
@@ -188,6 +196,13 @@ public final class BoundaryAnswersTest {
         });
         test("26: number 3, the last of 4", () -> due("near(29)", told("p000;p010;p020;p030;").near(29), 3));
         test("26: by rows and columns, not by NODES", () -> due("near(5), from 6 and from 11", told("p060;p110;").near(5), 1));
+        test("26: rows and columns between as the fewest STEPS over a wall all WET, each NODE", () -> {
+            GroutingIsFollowed x = told("p280;p070;p030;p180;");
+            for (int node = 0; node < 30; node++) {
+                int there = node;
+                due("near(" + node + ")", x.near(node), Bench.most(3, person -> -x.way(x.person(person, 0), there, 0)));
+            }
+        });
         test("26: a NODE WET 0 between is no matter", () -> due("near(0)", told("w010;w060;p020;p240;").near(0), 0));
     }
 
@@ -233,6 +248,11 @@ public final class BoundaryAnswersTest {
             due("both", told("p141;p203;w140;w200;").two(0, 1, 30), 0);
             due("the first", told("p141;p203;w140;").two(0, 1, 2), 1);
             due("the other", told("p141;p203;w200;").two(0, 1, 2), 10);
+        });
+        test("27: NODE 0 and NODE 29 count as all do", () -> {
+            due("the first to 0", told("p013;p291;").two(0, 1, 1), 10);
+            due("the other to 0", told("p291;p013;").two(0, 1, 1), 1);
+            due("to 29 and to 0", told("p281;p013;").two(0, 1, 1), 11);
         });
         test("27: nothing is another behind it", () -> {
             GroutingIsFollowed x = told("w141;s01;p141;p131;");

@@ -454,6 +454,13 @@ public final class BoundaryWallTest {
             due("as it was", Bench.state(x).equals(before) ? 1 : 0, 1);
             Bench.refused(x, 0, 0, 0, 0, 0);
         });
+        test("3: what lacks is not there from a longer WALL ahead", () -> {
+            GroutingIsFollowed x = told("n00s0;n01s0;");
+            due("wall", tell(x, "n00s0"), -1005);
+            due("wall", tell(x, "n00s0;n01"), -1009);
+            due("wall", tell(x, "n00s0;"), 1);
+            due("wall", x.wall(), -1000);
+        });
         test("3: behind a FAULT the next WALL begins anew", () -> {
             GroutingIsFollowed x = fresh();
             due("wall", tell(x, "s0"), -1002);
